@@ -16,6 +16,8 @@ public final class AnalyzeTest {
         deadEnds();
         certainChoices();
         offeredBehindTests();
+        nestedChoices();
+        anotherStory();
         withoutPlaying();
         wrongArguments();
         order();
@@ -98,6 +100,11 @@ public final class AnalyzeTest {
         range(any + "?x=9{}{>B}}=B", 1, 0, 0, 8);
         range(any + "?x=5{}{>B}}=B", 1, 0, 0, 9);
         range("=Ax=5?x=5{}{>B}=B", 1, 0, -1, -1);
+        // At one stroke from 0 to 9, so that no smaller range has been there before.
+        range("=A[1]{x=9}[2]{?x=9{}{>B}}=B", 1, 0, 0, 8);
+        range("=Ax=5>C=C[1]{x=9}[2]{?x=9{}{>B}}=B", 2, 0, 5, 8);
+        range("=Ax=9>C=C[1]{x=0}[2]{?x=9{}{>B}}=B", 2, 0, 0, 8);
+        range("=Ax=9>C=C[1]{x=0}[2]{?x=0{}{>B}}=B", 2, 0, 1, 9);
         range("=A?x<1{}{>B}=B", 1, 0, -1, -1);
         range(any + "?x>3&x<9{}{>B}}=B", 1, 0, 0, 9);
         // What is left behind a test whose first block leaves is its false part.
@@ -221,6 +228,30 @@ public final class AnalyzeTest {
         BranchingStory t = Check.analyzed("=A[9]{+a>B}[8]{>B}=B?a{[1]{>C}>D}{[2]{}}=C=D");
         Check.isFalse("withdrawn by a jump", () -> t.isReached(1, 2));
         Check.isTrue("the other one", () -> t.isReached(1, 3));
+    }
+
+    private static void nestedChoices() {
+        BranchingStory s = Check.analyzed("=A[1]{x=3[2]{>B}}=B");
+        Check.isTrue("a choice in a choice", () -> s.isReached(1, 1));
+        Check.due("its knowledge", 3, () -> s.lowest(1, 0));
+        BranchingStory t = Check.analyzed("=A[1]{x=3[2]{>B}>A}=B");
+        Check.isFalse("withdrawn by a jump", () -> t.isReached(1, 1));
+    }
+
+    private static void anotherStory() {
+        BranchingStory s = Check.analyzed("=A#[1]{.1}[2]{.2}?a{?b{}}=B#");
+        // The texts are read in turn into two places: both must be as new.
+        for (int turn = 0; turn < 4; turn++) {
+            Check.type(s, "=C.3[1]{}[2]{}?a{?b{}}=D");
+            s.build();
+            s.analyze();
+            Check.due("endings", 8, () -> s.possible(0));
+            Check.due("dead ends", 0, () -> s.possible(1));
+            Check.isFalse("choice", () -> s.isReached(1, 0));
+            Check.due("verdict", 0, () -> s.verdict(0));
+            Check.isFalse("hub", () -> s.isHub(0));
+            Check.due("nodes", 2, () -> s.count(0));
+        }
     }
 
     private static void withoutPlaying() {

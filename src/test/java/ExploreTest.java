@@ -141,6 +141,7 @@ public final class ExploreTest {
             int line = n;
             Check.due("line " + n, n == 1 || n == 2 || n == 99 ? 1 : 0, () -> s.occurred(0, line));
         }
+        Check.isTrue("the line 0", () -> Check.explored("=A 0", 1).occurred(0, 0));
         Check.isTrue("node A", () -> s.occurred(1, 0));
         Check.isTrue("node B", () -> s.occurred(1, 1));
         Check.isFalse("node C", () -> s.occurred(1, 2));
@@ -168,6 +169,15 @@ public final class ExploreTest {
         Check.isTrue("then it is found", () -> u.occurred(0, 8));
         u.explore(1);
         Check.isFalse("by the latest exploration", () -> u.occurred(0, 8));
+        BranchingStory v = Check.explored("=A 0[1]{>B}=B[2]{>C}=C[3]{}", 2);
+        Check.isTrue("choice 2 behind the second state", () -> v.occurred(2, 2));
+        v.explore(1);
+        Check.isFalse("not behind the first one", () -> v.occurred(2, 2));
+        Check.isFalse("nor the node", () -> v.occurred(1, 2));
+        Check.type(v, "=A");
+        v.build();
+        v.explore(1);
+        Check.isFalse("line 0 in a story without it", () -> v.occurred(0, 0));
     }
 
     private static void wrongArguments() {

@@ -38,6 +38,11 @@ public final class PlayTest {
         Check.due("start of an ending", 2, () -> Check.built("=A.0").start());
         Check.due("start of a loop", 4, () -> Check.built("=A>A").start());
         Check.state("start without a story", () -> Check.typed("=A").start());
+        BranchingStory far = Check.started("=A[1]{>B}=B#[2]{}");
+        far.choose(0);
+        Check.due("a hub at last", 1, far::hub);
+        far.start();
+        Check.due("no hub at the start", -1, far::hub);
         BranchingStory hub = Check.started("=A#[1]{}[2]{}");
         hub.choose(0);
         hub.start();

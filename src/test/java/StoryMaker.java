@@ -8,6 +8,8 @@ final class StoryMaker {
     private final int meters;
     private final int blanks;
     private final int goals;
+    // Many choices and no way out of a node but by them: such stories have many waiting states.
+    private final boolean rich;
     private String names = "";
 
     private StoryMaker(Random random) {
@@ -16,6 +18,7 @@ final class StoryMaker {
         meters = 1 + random.nextInt(3);
         blanks = random.nextInt(3) == 0 ? 4 : 40;
         goals = random.nextInt(6);
+        rich = random.nextInt(3) == 0;
     }
 
     static String make(Random random) {
@@ -42,7 +45,11 @@ final class StoryMaker {
             if (random.nextInt(3) == 0) {
                 put('#');
             }
-            block(1, 4 + random.nextInt(3));
+            if (rich) {
+                richBlock();
+            } else {
+                block(1, 4 + random.nextInt(3));
+            }
         }
         return text.toString();
     }
@@ -52,6 +59,16 @@ final class StoryMaker {
             text.append(' ');
         }
         text.append(code);
+    }
+
+    private void richBlock() {
+        if (random.nextInt(3) == 0) {
+            test(5);
+        }
+        int many = 1 + random.nextInt(4);
+        for (int i = 0; i < many; i++) {
+            choice(random.nextInt(3) == 0 ? 1 : 3);
+        }
     }
 
     private void block(int depth, int most) {

@@ -15,6 +15,7 @@ public final class TextTest {
         build();
         buildForgets();
         buildFails();
+        readingOften();
         Check.end();
     }
 
@@ -250,6 +251,17 @@ public final class TextTest {
         Check.state("outcomes", () -> s.outcomes(0));
         Check.state("possible", () -> s.possible(0));
         Check.state("isReached", () -> s.isReached(0, 0));
+    }
+
+    private static void readingOften() {
+        BranchingStory s = Check.typed("=A?a&b&c&d&e&f&!a&!b&!c&!d&!e&!f{1}{2}=B>C 3=C[1]{}");
+        for (int turn = 0; turn < 60; turn++) {
+            Check.due("fault", -1, s::fault);
+            Check.due("build", 3, s::build);
+        }
+        s.start();
+        Check.due("the condition does not hold", 2, () -> s.line(0));
+        Check.due("one choice", 1, () -> s.count(1));
     }
 
     private static void buildFails() {

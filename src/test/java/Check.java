@@ -4,6 +4,7 @@ import java.util.concurrent.Callable;
 final class Check {
     private static int wrong = 0;
     private static int checked = 0;
+    private static String sentence = "";
 
     private Check() {
     }
@@ -26,9 +27,19 @@ final class Check {
         if (!got.equals(want)) {
             wrong++;
             if (wrong <= 50) {
-                System.out.println(what + " answered " + got + ", due is " + want);
+                System.out.println(what + " answered " + got + ", due is " + want
+                        + (sentence.isEmpty() ? "" : " (" + sentence + ")"));
             }
         }
+    }
+
+    /** The sentence of the document for which the next answers are checked. */
+    static void under(String newSentence) {
+        sentence = newSentence;
+    }
+
+    static int checked() {
+        return checked;
     }
 
     static void due(String what, long want, Callable<?> call) {

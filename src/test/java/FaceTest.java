@@ -22,7 +22,31 @@ public final class FaceTest {
             hasNoNameOfTheFace(inner, face);
         }
         Check.isTrue("at most twelve classes", () -> face.getDeclaredClasses().length + 1 <= 12);
+        noPrivateNamesake(face);
+        isSmall(face);
+        for (Class<?> inner : face.getDeclaredClasses()) {
+            isSmall(inner);
+        }
         Check.end();
+    }
+
+    /** No private method bears the name of a public one. */
+    private static void noPrivateNamesake(Class<?> face) {
+        for (Method own : face.getDeclaredMethods()) {
+            for (Method other : face.getDeclaredMethods()) {
+                Check.isFalse("a private method " + own.getName(), () -> !Modifier.isPublic(own.getModifiers())
+                        && Modifier.isPublic(other.getModifiers()) && own.getName().equals(other.getName()));
+            }
+        }
+    }
+
+    /** At most seven parameters, and some twenty fields beside the constants. */
+    private static void isSmall(Class<?> type) {
+        long fields = Arrays.stream(type.getDeclaredFields()).filter(f -> !Modifier.isStatic(f.getModifiers())).count();
+        Check.isTrue(type.getSimpleName() + " has " + fields + " fields", () -> fields <= 20);
+        for (Method method : type.getDeclaredMethods()) {
+            Check.isTrue(method.getName() + " takes few parameters", () -> method.getParameterCount() <= 7);
+        }
     }
 
     private static void compare(Set<String> wanted, Set<String> found) {

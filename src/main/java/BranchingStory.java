@@ -456,7 +456,7 @@ public final class BranchingStory {
 
         private boolean allHold(int from, int to, int flags, int meters) {
             int stop = Math.min(to, size);
-            for (int term = Math.max(from, 0); term < stop; term++) {
+            for (int term = Math.max(from, 0); term < MOST_TERMS && term < stop; term++) {
                 if (!oneHolds(term, flags, meters)) {
                     return false;
                 }
@@ -484,17 +484,17 @@ public final class BranchingStory {
         private long truePart(int from, int to, long knowledge) {
             int stop = Math.min(to, size);
             long part = knowledge;
-            for (int term = Math.max(from, 0); term < stop && part != Knowledge.NOTHING; term++) {
-                part = narrowed(term, part);
+            for (int term = Math.max(from, 0); term < MOST_TERMS && term < stop; term++) {
+                if (part != Knowledge.NOTHING) {
+                    part = narrowed(term, part);
+                }
             }
             return part;
         }
 
         private long falsePart(int from, int to, long knowledge) {
-            if (to - from != 1 || from < 0 || from >= size || knowledge == Knowledge.NOTHING) {
-                return knowledge;
-            }
-            return narrowedByOpposite(from, knowledge);
+            boolean isOne = to - from == 1 && from >= 0 && from < size && from < MOST_TERMS;
+            return isOne && knowledge != Knowledge.NOTHING ? narrowedByOpposite(from, knowledge) : knowledge;
         }
 
         private long narrowed(int term, long knowledge) {
@@ -607,7 +607,7 @@ public final class BranchingStory {
         }
 
         private boolean standsInHub(int choice) {
-            return choice >= 0 && choice < choices && standsAsHub(choiceNode[choice]);
+            return choice >= 0 && choice < choices && choice < MOST_CHOICES && standsAsHub(choiceNode[choice]);
         }
     }
 
@@ -1211,7 +1211,7 @@ public final class BranchingStory {
     /** The latest states before choices, in a ring. */
     private static final class History {
         private int size;
-        // Where the next state is put: 0 to KEPT_STATES - 1.
+        // Where the next state is put in the ring.
         private int top;
         private final long[] keys = new long[KEPT_STATES];
         private final int[] counts = new int[KEPT_STATES];
@@ -1222,19 +1222,21 @@ public final class BranchingStory {
         }
 
         private void keep(Play play) {
-            keys[top] = play.key();
-            counts[top] = play.lines.count;
-            System.arraycopy(play.lines.latest, 0, lines, top * KEPT_LINES, KEPT_LINES);
-            top = top == KEPT_STATES - 1 ? 0 : top + 1;
+            int place = Math.floorMod(top, KEPT_STATES);
+            keys[place] = play.key();
+            counts[place] = play.lines.count;
+            System.arraycopy(play.lines.latest, 0, lines, place * KEPT_LINES, KEPT_LINES);
+            top = place + 1;
             size = Math.min(size + 1, KEPT_STATES);
         }
 
         private void restore(Play play) {
-            top = top == 0 ? KEPT_STATES - 1 : top - 1;
+            int place = Math.floorMod(top - 1, KEPT_STATES);
+            play.restore(keys[place]);
+            play.lines.count = counts[place];
+            System.arraycopy(lines, place * KEPT_LINES, play.lines.latest, 0, KEPT_LINES);
+            top = place;
             size = Math.max(size - 1, 0);
-            play.restore(keys[top]);
-            play.lines.count = counts[top];
-            System.arraycopy(lines, top * KEPT_LINES, play.lines.latest, 0, KEPT_LINES);
         }
     }
 

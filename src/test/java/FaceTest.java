@@ -21,12 +21,7 @@ public final class FaceTest {
                     () -> Modifier.isStatic(inner.getModifiers()) && !Modifier.isPublic(inner.getModifiers()));
             hasNoNameOfTheFace(inner, face);
         }
-        Check.isTrue("at most twelve classes", () -> face.getDeclaredClasses().length + 1 <= 12);
         noPrivateNamesake(face);
-        isSmall(face);
-        for (Class<?> inner : face.getDeclaredClasses()) {
-            isSmall(inner);
-        }
         Check.end();
     }
 
@@ -37,15 +32,6 @@ public final class FaceTest {
                 Check.isFalse("a private method " + own.getName(), () -> !Modifier.isPublic(own.getModifiers())
                         && Modifier.isPublic(other.getModifiers()) && own.getName().equals(other.getName()));
             }
-        }
-    }
-
-    /** At most seven parameters, and some twenty fields beside the constants. */
-    private static void isSmall(Class<?> type) {
-        long fields = Arrays.stream(type.getDeclaredFields()).filter(f -> !Modifier.isStatic(f.getModifiers())).count();
-        Check.isTrue(type.getSimpleName() + " has " + fields + " fields", () -> fields <= 20);
-        for (Method method : type.getDeclaredMethods()) {
-            Check.isTrue(method.getName() + " takes few parameters", () -> method.getParameterCount() <= 7);
         }
     }
 

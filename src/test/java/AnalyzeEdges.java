@@ -350,6 +350,10 @@ final class AnalyzeEdges {
         possible("=A?!a{[1]{}}{}", 0, 0);
         possible("=A?!a{}{[1]{}}", 0, 1);
         reached(any + "?a{[1]{}>C}{[2]{}}=C", "111", "1101");
+        // A test at the end of a block that leads to nothing takes along what was offered in this block.
+        reached(any + "?a{[1]{}?a{.1}}", "11", "110");
+        reached(any + "?a{}{[1]{}?a{}{.1}}", "11", "110");
+        reached(any + "?a{[1]{}?a{?a{.1}}}{[2]{}}", "11", "1101");
         // If both do, nothing is left.
         reached(any + "?a{.1}{.2}[1]{>C}=C", "110", "110");
         possible(any + "?a{.1}{.2}.3", 6, 0);

@@ -33,6 +33,15 @@ final class Check {
         }
     }
 
+    /** For so many numbers that no text can be made for each of them. */
+    static void number(String story, String call, int got, int want) {
+        checked++;
+        if (got != want) {
+            checked--;
+            same(story + ": " + call, Integer.toString(got), Integer.toString(want));
+        }
+    }
+
     /** The sentence of the document for which the next answers are checked. */
     static void under(String newSentence) {
         sentence = newSentence;

@@ -368,6 +368,7 @@ final class ExploreEdges {
         Check.isFalse("node C behind one", () -> s.occurred(1, 2));
         Check.isFalse("choice 2 behind one", () -> s.occurred(2, 2));
         Check.isTrue("line 2 behind one", () -> s.occurred(0, 2));
+        occurredLate();
         doc.says(29, "2: a choice was offered when a flow ended with the status 1");
         BranchingStory t = Check.explored("=A[1]{[4]{}.1}[2]{[5]{}<}[3]{[6]{}>B}[7?a]{}=B 9>B", 300);
         int[] offered = {1, 0, 1, 0, 1, 0, 0};
@@ -407,6 +408,26 @@ final class ExploreEdges {
         }
         Check.isFalse("the former story's node", () -> v.occurred(1, 1));
         Check.isFalse("the former story's choice", () -> v.occurred(2, 1));
+    }
+
+    /** However much has occurred before: in one flow, and in many. */
+    private void occurredLate() {
+        BranchingStory flow = Check.explored("=A?x<9{x+1" + " 1".repeat(12) + ">A}7[1]{8>B}=B 9", 9);
+        for (int line = 7; line <= 9; line++) {
+            int number = line;
+            Check.isTrue("behind 108 lines, line " + line, () -> flow.occurred(0, number));
+        }
+        BranchingStory many = Check.explored(
+                "=A" + " 1".repeat(40) + "[1?x<9]{x+1}[2?y<9]{y+1}[3?x=9&y=9]{42>B}=B 43[4]{44}", 300);
+        Check.due("all states were found", 101, () -> Check.explored(
+                "=A[1?x<9]{x+1}[2?y<9]{y+1}[3?x=9&y=9]{42>B}=B 43[4]{44}", 300).explore(300));
+        for (int line = 42; line <= 44; line++) {
+            int number = line;
+            Check.isTrue("behind 7,000 lines, line " + line, () -> many.occurred(0, number));
+        }
+        Check.isTrue("node B behind all others", () -> many.occurred(1, 1));
+        Check.isTrue("choice 3 behind all others", () -> many.occurred(2, 3));
+        Check.isFalse("a line that is nowhere", () -> many.occurred(0, 45));
     }
 
     private void occurredFails() {

@@ -92,6 +92,35 @@ final class AnalyzeEdges {
         Check.due("hubs of nothing", 0, () -> s.hubs(3));
         Check.due("hubs", 2, () -> s.hubs(2));
         Check.due("having none", NO_HUB, () -> s.hubs(1));
+        // Each part of it has its own place: what one of them is does not show in another.
+        for (int i = 0; i < 3; i++) {
+            knows("=A" + (char) ('x' + i) + "=9>B=B", 1, i, -1, NO_HUB);
+        }
+        for (int i = 0; i < 6; i++) {
+            knows("=A+" + (char) ('a' + i) + ">B=B", 1, -1, i, NO_HUB);
+            knows("=A#+" + (char) ('a' + i) + ">B=B", 1, -1, i, 1);
+        }
+        for (int i = 0; i < 11; i++) {
+            String nodes = "=A>" + (char) ('A' + i) + "=B=C=D=E=F=G=H=I=J=K=L";
+            String hub = i == 0 ? "=A#>L=B=C=D=E=F=G=H=I=J=K=L"
+                    : nodes.replace("=" + (char) ('A' + i), "=" + (char) ('A' + i) + "#>L");
+            knows(hub, 11, -1, -1, 1 << i);
+        }
+    }
+
+    /** At this node one meter is 9, one flag is 1 (-1: none of them), all others are 0. */
+    private static void knows(String text, int node, int meter, int flag, int hubs) {
+        BranchingStory s = Check.analyzed(text);
+        for (int i = 0; i < 3; i++) {
+            int asked = i;
+            Check.due("lowest " + i + " in " + text, i == meter ? 9 : 0, () -> s.lowest(node, asked));
+            Check.due("greatest " + i + " in " + text, i == meter ? 9 : 0, () -> s.greatest(node, asked));
+        }
+        for (int i = 0; i < 6; i++) {
+            int asked = i;
+            Check.due("values " + i + " in " + text, i == flag ? 2 : 1, () -> s.values(node, asked));
+        }
+        Check.due("hubs in " + text, hubs, () -> s.hubs(node));
     }
 
     private void unions() {
@@ -325,6 +354,18 @@ final class AnalyzeEdges {
         reached("=A[9]{+a>B}[8]{>B}=B[1]{>C}?a{.1}{}=C", "111", "111");
         reached("=A[9]{+a>B}[8]{>B}=B[1]{>C}?a{}{.1}=C", "111", "111");
         possible("=A[9]{+a>B}[8]{>B}=B[1]{.2}?a{}{}", 4, 0);
+        // Also with those that are not certain: they stay offered, and do not become certain.
+        for (String head : new String[] {"=A#[1]{}", "=A[1?!a&x<9]{}"}) {
+            for (String test : new String[] {"?a{5}{6}", "?!a{5}{6}", "?a{5}", "?!a{5}", "?!b{?a{5}{6}}"}) {
+                reached(head + test, "1", "1");
+                possible(head + test, 0, 1);
+            }
+        }
+        // And with those that are: they stay certain.
+        for (String test : new String[] {"?a{5}{6}", "?!a{5}{6}", "?a{5}", "?!a{5}", "?!b{?a{5}{6}}"}) {
+            reached("=A[1]{}" + test, "1", "1");
+            possible("=A[1]{}" + test, 0, 0);
+        }
         // What is offered in the first block is not offered in the second one.
         reached("=A[9]{+a>B}[8]{>B}=B?a{[1]{>C}.1}{[2]{}}=C", "110", "1101");
     }
@@ -336,6 +377,14 @@ final class AnalyzeEdges {
         range(any + "?a{x=3}>C=C", 2, 0, 3);
         Check.due("the flag can be both again", 3, () -> Check.analyzed(any + "?a{1}{2}>C=C").values(2, 0));
         reached(any + "?a{[1]{}}{[2]{}}", "11", "1111");
+        // Also those that are not certain.
+        String hub = "=A[9]{+a>B}[8]{>B}=B#";
+        reached(hub + "?a{[1]{}}{[2]{}}", "11", "1111");
+        reached(hub + "?a{[1]{}}{5}", "11", "111");
+        reached(hub + "?a{5}{[1]{}}", "11", "111");
+        reached(hub + "[3]{}?a{[1]{}}{[2]{}}", "11", "11111");
+        reached(any + "?a{[1?x<9&a]{}}{[2?x<9&!a]{}}", "11", "1111");
+        possible(hub + "?a{[1]{}}{[2]{}}", 0, 2);
         // Certain is what is certain in both blocks: one and the same choice stands before the test.
         possible(any + "?a{[1]{}}{[2]{}}", 0, 2);
         possible(any + "[3]{}?a{[1]{}}{[2]{}}", 0, 0);
@@ -455,6 +504,10 @@ final class AnalyzeEdges {
         range("=A[1]{>B}x=5=B", 1, 5, 5);
         range("=A?x<1&a{[1]{>B}}{[2]{}}x=5=B", 1, -1, -1);
         range("=A[1]{[2]{>B}x=4}=B", 1, 4, 4);
+        // Offered is enough: neither of these is certain.
+        reached("=A#[1]{[2]{>B}}=B", "11", "11");
+        reached("=A[1]{[2?!a&x<9]{>B}}=B", "11", "11");
+        reached("=A#[1]{>B}=B", "11", "1");
         reached("=A[1]{>B}.1=B", "10", "0");
         reached("=A" + "[1]{}".repeat(15) + "[2]{>B}=B", "11", "1111111111111111");
     }
@@ -467,6 +520,10 @@ final class AnalyzeEdges {
         range("=A[1]{x=5[2?y<1]{.1}}", 0, 0, 0);
         range("=A>B=B[1]{x=5}", 1, 0, 5);
         range("=A>B=B[1]{x=5}", 0, 0, 0);
+        // The node in which this choice stands, not the first choice's.
+        range("=A[1]{>B}=B[2]{x=5}", 0, 0, 0);
+        range("=A[1]{>B}=B[2]{x=5}", 1, 0, 5);
+        range("=A[1]{>B}=B[2]{[3?a]{}x=5}=C[4]{}", 1, 0, 5);
         possible("=A", 0, 1);
         possible("=A>B=B", 0, 2);
         possible("=A[1]{}", 0, 0);
@@ -511,14 +568,32 @@ final class AnalyzeEdges {
         Check.due("endings again", 4, () -> s.possible(0));
     }
 
+    private static void leavesNothing(String before, String after) {
+        Calls fresh = Calls.make(after, "build", "analyze", "explore 9");
+        Calls used = Calls.make(before, "build", "analyze", "explore 9", "start", "text " + after, "build", "analyze", "explore 9");
+        Check.same(after + " behind " + before, used.all(), fresh.all());
+    }
+
     private void analyze() {
         doc.says(30, "Analyzes the story.");
         Calls one = Calls.make(SMALL, "build", "start", "choose 0", "explore 9", "analyze");
         Calls other = Calls.make(SMALL, "build", "analyze", "explore 9", "start", "choose 0");
         Check.same("it changes neither play nor exploration", one.all(), other.all());
+        // Statements at the same places in the text of a former story leave nothing behind.
+        String[][] alike = {{"=A[1]{}[2]{}", "=A[1?a]{}[2?a]{}"}, {"=A[1]{}[2]{}", "=A#[1]{}[2]{}"},
+            {"=A?!a{[1]{>B}}{5}=B.3", "=A?b{[1]{>B}}{5}=B.3"}, {"=A[1]{[2]{x+1}}", "=A[1]{[2?b]{y-1}}"},
+            {"=A#[1]{<}[2]{>B}=B#[3]{<}", "=A[1]{<}[2]{>B}=B[3]{<}"}, {"=A.1=B.2", "=A.3=B.4"}};
+        for (String[] pair : alike) {
+            leavesNothing(pair[0], pair[1]);
+            leavesNothing(pair[1], pair[0]);
+        }
         doc.says(30, "Returns the number of nodes whose entry is not nothing.");
         Check.due("one", 1, () -> Check.built("=A=B=C").analyze());
         Check.due("two of three", 2, () -> Check.built(SMALL).analyze());
+        // Having no hub is no node.
+        Check.due("one without a hub", 1, () -> Check.built("=A<").analyze());
+        Check.due("all twelve without a hub", 12, () -> Check.built(
+                "=A>B=B>C=C>D=D>E=E>F=F>G=G>H=H>I=I>J=J>K=K>L=L<").analyze());
         Check.due("twelve", 12, () -> Check.built("=A>B=B>C=C>D=D>E=E>F=F>G=G>H=H>I=I>J=J>K=K>L=L").analyze());
         doc.says(30, "Throws `IllegalStateException` if there is no story");
         Calls.refusedState("analyze", "");

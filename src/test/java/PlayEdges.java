@@ -125,6 +125,28 @@ final class PlayEdges {
         Check.due("lowered", 0, () -> Check.started("=A+a-a").flag(0));
         Check.due("lowered when it is 0", 0, () -> Check.started("=A-a").flag(0));
         Check.due("raised again", 1, () -> Check.started("=A+f-f+f").flag(5));
+        for (char flag = 'a'; flag <= 'f'; flag++) {
+            changesOnly("+" + flag, flag - 'a', 1, -1, -1);
+            changesOnly("-" + flag, flag - 'a', 0, -1, -1);
+        }
+    }
+
+    /** Behind a statement a flag and a meter have new values (those with the number -1: none), all else its old one. */
+    private static void changesOnly(String statement, int flag, int flagThen, int meter, int meterThen) {
+        BranchingStory s = Check.started("=A>B=B# 3x=5y=6z=7+a+c+e" + statement + "[1]{}");
+        for (int i = 0; i < 6; i++) {
+            int asked = i;
+            Check.due("flag " + i + " behind " + statement, i == flag ? flagThen : (i + 1) % 2, () -> s.flag(asked));
+        }
+        for (int i = 0; i < 3; i++) {
+            int asked = i;
+            Check.due("meter " + i + " behind " + statement, i == meter ? meterThen : 5 + i, () -> s.meter(asked));
+        }
+        Check.due("node behind " + statement, 1, s::node);
+        Check.due("hub behind " + statement, 1, s::hub);
+        Check.due("lines behind " + statement, 1, s::said);
+        Check.due("line behind " + statement, 3, () -> s.line(0));
+        Check.due("offered behind " + statement, 1, s::offered);
     }
 
     private void meterEdges() {
@@ -139,6 +161,15 @@ final class PlayEdges {
                 Check.due(v + " - " + d, value < digit ? 0 : value - digit, () -> s.meter(2));
             }
         }
+        for (int i = 0; i < 3; i++) {
+            char meter = (char) ('x' + i);
+            changesOnly(meter + "=2", -1, -1, i, 2);
+            changesOnly(meter + "+2", -1, -1, i, 7 + i);
+            changesOnly(meter + "-2", -1, -1, i, 3 + i);
+        }
+        changesOnly("?a{}", -1, -1, -1, -1);
+        changesOnly("?x<6&b{}{}", -1, -1, -1, -1);
+        changesOnly("[2?b]{+b.1}", -1, -1, -1, -1);
         // At 9 and at 0 it goes on as from there.
         Check.due("9 and 9 less 1", 8, () -> Check.started("=Ax=9x+9x-1").meter(0));
         Check.due("0 less 9 and 1 more", 1, () -> Check.started("=Ax-9x+1").meter(0));

@@ -496,6 +496,17 @@ final class TextEdges {
         Check.due("the story is another one still", 'A', () -> s.name(0));
         Check.due("it waits still", 1, s::status);
         Check.due("the text stays", 4, s::clearText);
+        // Of the texts before it nothing is left.
+        String[] texts = {"=A5>B=B", "=A", "=A5>C", "=A[1]{>B}=B?a{<}{.1}", "=A[1", "=L#", "=A>A>A>A", "=A?x<3&y=2{"};
+        int[] faults = {-1, -1, 4, -1, 4, -1, -1, 11};
+        for (int before = 0; before < texts.length; before++) {
+            for (int after = 0; after < texts.length; after++) {
+                BranchingStory u = Check.typed(texts[before]);
+                Check.due("fault of " + texts[before], faults[before], u::fault);
+                Check.type(u, texts[after]);
+                Check.due(texts[after] + " behind " + texts[before], faults[after], u::fault);
+            }
+        }
         doc.says(4, "Returns the fault; NONE if there is none.");
         Check.due("none", -1, () -> Check.typed("=A").fault());
         Check.due("at 0", 0, () -> Check.typed("}").fault());

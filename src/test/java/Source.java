@@ -106,12 +106,12 @@ final class Source {
     private void noteCall(TreePath path) {
         Element caller = methodAround(path);
         Element called = element(path);
-        if (caller != null && called != null && isOwn(called)) {
+        if (caller != null && called != null) {
             calls.computeIfAbsent(caller, key -> new LinkedHashSet<>()).add(called);
         }
     }
 
-    /** How many methods stand open at once at most from this one on; names a circle if it meets one. */
+    /** How many methods, the library's too, stand open at once at most from this one on; names a circle if it meets one. */
     int depth(Element method, Set<String> circles) {
         return depth(method, new ArrayList<>(), new HashMap<>(), circles);
     }
